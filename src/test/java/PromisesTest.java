@@ -268,30 +268,29 @@ public final class PromisesTest {
 
     private static void promise7Shares() {
         TermGate x = new TermGate();
-        x.setPrices(1, 10, 6);
         sell(x, 0, false, 1, 2, 3, 4, 5, 6, 7, 8);
-        checkCost(x, 16, 24, 1, 2, 3, 4, 5, 6, 7, 8);
-        checkCost(x, 40, 60, 1, 2, 3, 4, 5, 6, 7, 9);
-        checkCost(x, 56, 84, 1, 2, 3, 4, 5, 6, 9, 9);
-        checkCost(x, 72, 108, 1, 2, 3, 4, 5, 9, 9, 9);
-        checkCost(x, 72, 108, 9, 9, 9, 9, 9, 9, 9, 8);
-        checkCost(x, 80, 120, 9, 9, 9, 9, 9, 9, 9, 9);
-        x = new TermGate();
-        sell(x, 0, false, 1, 2, 3, 4, 5, 6, 7);
-        checkCost(x, 35, 52, 1, 2, 3, 4, 5, 6, 9);
-        checkCost(x, 49, 73, 1, 2, 3, 4, 5, 9, 9);
-        x = new TermGate();
-        sell(x, 0, false, 1, 2, 3, 4, 5, 6);
-        checkCost(x, 42, 63, 1, 2, 3, 4, 5, 9);
-        checkCost(x, 54, 81, 1, 2, 3, 4, 9, 9);
-        TermGate y = x;
-        y.setPrices(50, 7, 6);
-        checkCost(y, 29, 43, 1, 2, 3, 4, 5, 9);
-        checkCost(y, 8, 12, 1, 2, 3, 4, 5, 6);
-        y.setPrices(67, 7, 6);
-        checkCost(y, 42, 63, 1, 2, 3, 4, 9, 9);
-        rule(y, 0, 1, 9);
-        checkCost(y, 42, 63, 1, 2, 3, 4, 5, 6);
+        x.setPrices(1, 100, 6);
+        checkCost(x, 160, 240, 1, 2, 3, 4, 5, 6, 7, 8);
+        checkCost(x, 400, 600, 1, 2, 3, 4, 5, 6, 7, 9);
+        checkCost(x, 560, 840, 1, 2, 3, 4, 5, 6, 9, 9);
+        checkCost(x, 720, 1080, 1, 2, 3, 4, 5, 9, 9, 9);
+        checkCost(x, 720, 1080, 9, 9, 9, 9, 9, 9, 9, 8);
+        checkCost(x, 800, 1200, 9, 9, 9, 9, 9, 9, 9, 9);
+        TermGate seven = new TermGate();
+        sell(seven, 0, false, 1, 2, 3, 4, 5, 6, 7);
+        checkCost(seven, 35, 52, 1, 2, 3, 4, 5, 6, 9);
+        checkCost(seven, 49, 73, 1, 2, 3, 4, 5, 9, 9);
+        TermGate six = new TermGate();
+        sell(six, 0, false, 1, 2, 3, 4, 5, 6);
+        checkCost(six, 42, 63, 1, 2, 3, 4, 5, 9);
+        checkCost(six, 54, 81, 1, 2, 3, 4, 9, 9);
+        six.setPrices(50, 7, 6);
+        checkCost(six, 29, 43, 1, 2, 3, 4, 5, 9);
+        checkCost(six, 8, 12, 1, 2, 3, 4, 5, 6);
+        six.setPrices(67, 7, 6);
+        checkCost(six, 42, 63, 1, 2, 3, 4, 9, 9);
+        rule(six, 0, 1, 9);
+        checkCost(six, 42, 63, 1, 2, 3, 4, 5, 6);
     }
 
     private static void checkCost(TermGate x, int plain, int rush, int... words) {
@@ -364,6 +363,9 @@ public final class PromisesTest {
         checkLent("nothing paired in the middle", words(8, 5, 6, 9), words(8, 1, 2, 9), 58, NONE, NONE, 59);
         checkLent("same words more often", words(7, 7), words(7, 7, 7), NONE, 57, 57);
         checkLent("same words less often", words(7, 7, 7), words(7, 7), 57, 57);
+        checkLent("both last words go", words(7, 8), words(7, 7), 57, NONE);
+        checkLent("the match's goes ahead of both", words(5, 7, 8), words(7, 7), NONE, 57);
+        checkLent("the row is the longer", words(6, 5), words(5, 6, 7, 6), NONE, 56, NONE, NONE);
         checkLent("no match", words(1, 2), words(3, 4), NONE, NONE);
         TermGate x = new TermGate();
         sell(x, 0, false, 1, 2);

@@ -1,9 +1,22 @@
+import java.util.function.IntConsumer;
+
 /** Counts what the tests of one run compare, and tells what is wrong. */
 final class Check {
     private static int right = 0;
     private static int wrong = 0;
+    private static String topic = "";
+    private static int comparedBefore = 0;
 
     private Check() {
+    }
+
+    /** Names what the comparisons from here on are about; each topic must have at least one. */
+    static void about(String next) {
+        if (!topic.isEmpty() && right + wrong == comparedBefore) {
+            fail("nothing was compared");
+        }
+        topic = next.isEmpty() ? "" : next + ": ";
+        comparedBefore = right + wrong;
     }
 
     static void same(String what, long got, long want) {
@@ -34,6 +47,20 @@ final class Check {
         same(what, thrownBy(call), "IndexOutOfBoundsException");
     }
 
+    /** The call throws for each of these arguments. */
+    static void refusesArguments(int[] wrongs, IntConsumer call) {
+        for (int wrong : wrongs) {
+            throwsArgument("with " + wrong, () -> call.accept(wrong));
+        }
+    }
+
+    /** The call throws for each of these numbers and places. */
+    static void refusesPlaces(int[] wrongs, IntConsumer call) {
+        for (int wrong : wrongs) {
+            throwsPlace("with " + wrong, () -> call.accept(wrong));
+        }
+    }
+
     private static String thrownBy(Runnable call) {
         try {
             call.run();
@@ -46,7 +73,7 @@ final class Check {
     static void fail(String what) {
         wrong++;
         if (wrong <= 50) {
-            System.out.println("wrong: " + what);
+            System.out.println("wrong: " + topic + what);
         }
     }
 
@@ -56,6 +83,7 @@ final class Check {
 
     /** Ends the run of a test, with exit code 1 if anything was wrong. */
     static void end() {
+        about("");
         System.out.println(right + " answers right, " + wrong + " wrong");
         if (wrong != 0 || right == 0) {
             System.exit(1);

@@ -40,31 +40,8 @@ public final class PromisesTest {
 
     // ---- shorthands
 
-    private static void draft(TermGate x, int... words) {
-        x.clear();
-        for (int word : words) {
-            x.word(word);
-        }
-    }
-
     private static int[] words(int... words) {
         return words;
-    }
-
-    /** Sells words of a client that become 50 and on, by translator 3, with nothing else waiting. */
-    private static int sell(TermGate x, int client, boolean isRush, int... words) {
-        draft(x, words);
-        x.order(client, isRush);
-        x.take(3);
-        for (int place = 0; place < words.length; place++) {
-            x.translate(3, place, 50 + words[place]);
-        }
-        return x.deliver(3);
-    }
-
-    private static void rule(TermGate x, int client, int word, int becomes) {
-        x.say(0, client, word, becomes);
-        x.say(1, client, word, becomes);
     }
 
     private static void checkDue(TermGate x, String when, int... sentences) {
@@ -108,7 +85,7 @@ public final class PromisesTest {
         Check.throwsPlace("orderAt of a new object", () -> x.orderAt(0));
         Check.throwsPlace("clientOf of a new object", () -> x.clientOf(0));
         Check.same("clear of a new object", x.clear(), 0);
-        draft(x, 1);
+        House.draft(x, 1);
         Check.same("first order", x.order(0, false), 0);
         TermGate other = new TermGate();
         Check.same("another object's desk", other.waiting(false), 0);
@@ -134,7 +111,7 @@ public final class PromisesTest {
     private static void promise3Clear() {
         TermGate x = new TermGate();
         Check.same("clear of an empty draft", x.clear(), 0);
-        draft(x, 4, 4, 4);
+        House.draft(x, 4, 4, 4);
         Check.same("clear of three", x.clear(), 3);
         Check.same("clear behind clear", x.clear(), 0);
         Check.throwsState("cost of a cleared draft", () -> x.cost(0, false));
@@ -143,8 +120,8 @@ public final class PromisesTest {
     private static void promise4Likeness() {
         TermGate x = new TermGate();
         Check.throwsPlace("likeness, no sentence and no draft", () -> x.likeness(0));
-        sell(x, 0, false, 1, 2, 3);
-        sell(x, 0, false, 1, 2, 3, 4, 5, 6, 7, 8);
+        House.sell(x, 0, false, 1, 2, 3);
+        House.sell(x, 0, false, 1, 2, 3, 4, 5, 6, 7, 8);
         x.clear();
         Check.throwsState("likeness of an empty draft", () -> x.likeness(0));
         Check.throwsPlace("likeness of an empty draft, no sentence", () -> x.likeness(2));
@@ -171,13 +148,13 @@ public final class PromisesTest {
         Check.throwsPlace("likeness(40)", () -> x.likeness(40));
         Check.throwsPlace("likeness of the least number", () -> x.likeness(Integer.MIN_VALUE));
         Check.throwsPlace("likeness of the greatest number", () -> x.likeness(Integer.MAX_VALUE));
-        rule(x, 0, 1, 99);
-        draft(x, 1, 2, 3);
+        House.rule(x, 0, 1, 99);
+        House.draft(x, 1, 2, 3);
         Check.same("likeness of a due sentence", x.likeness(0), 100);
     }
 
     private static void checkLikeness(TermGate x, int sentence, int want, int... words) {
-        draft(x, words);
+        House.draft(x, words);
         Check.same("likeness to " + sentence + " of " + java.util.Arrays.toString(words), x.likeness(sentence), want);
     }
 
@@ -189,58 +166,58 @@ public final class PromisesTest {
         }
         Check.throwsState("best, no draft", () -> x.best(0));
         Check.throwsState("bestByAll, no draft", () -> x.bestByAll(3));
-        draft(x, 1);
+        House.draft(x, 1);
         checkBest(x, "nothing sold", 0, NONE);
-        sell(x, 0, false, 1, 2, 3, 4);
-        sell(x, 1, false, 1, 2, 3, 5);
-        sell(x, 1, false, 1, 2, 3, 6);
-        sell(x, 2, false, 1, 2, 3, 7);
-        draft(x, 1, 2, 3, 9);
+        House.sell(x, 0, false, 1, 2, 3, 4);
+        House.sell(x, 1, false, 1, 2, 3, 5);
+        House.sell(x, 1, false, 1, 2, 3, 6);
+        House.sell(x, 2, false, 1, 2, 3, 7);
+        House.draft(x, 1, 2, 3, 9);
         checkBest(x, "the client's own, though of the least number", 0, 0);
         checkBest(x, "of two own the greater number", 1, 2);
         checkBest(x, "own, and the greatest", 2, 3);
         checkBest(x, "none of the client's own: the greatest number", 3, 3);
-        draft(x, 1, 2, 3, 5);
+        House.draft(x, 1, 2, 3, 5);
         checkBest(x, "the likeness goes ahead of the client", 0, 1);
         checkBest(x, "the likeness goes ahead of the number", 2, 1);
-        sell(x, 3, false, 0, 49);
-        draft(x, 49, 0);
+        House.sell(x, 3, false, 0, 49);
+        House.draft(x, 49, 0);
         checkBest(x, "two words changed about", 3, NONE);
-        draft(x, 49);
+        House.draft(x, 49);
         checkBest(x, "the last word of all", 0, 4);
-        draft(x, 0);
+        House.draft(x, 0);
         checkBest(x, "the first word of all", 0, 4);
     }
 
     private static void promises5And6LeastAndDue() {
         TermGate x = new TermGate();
-        sell(x, 0, false, 1, 2);
-        sell(x, 1, false, 1, 2, 3);
-        draft(x, 1);
+        House.sell(x, 0, false, 1, 2);
+        House.sell(x, 1, false, 1, 2, 3);
+        House.draft(x, 1);
         checkBest(x, "50 is just enough", 1, 0);
         x.setPrices(51, 10, 6);
         checkBest(x, "50 is too little for 51", 1, NONE);
         x.setPrices(33, 10, 6);
-        draft(x, 9, 9, 3);
+        House.draft(x, 9, 9, 3);
         checkBest(x, "33 is just enough", 0, 1);
         x.setPrices(34, 10, 6);
         checkBest(x, "33 is too little for 34", 0, NONE);
         x.setPrices(1, 10, 6);
-        draft(x, 9, 9, 9);
+        House.draft(x, 9, 9, 9);
         checkBest(x, "0 is never enough", 0, NONE);
         x.setPrices(100, 10, 6);
-        draft(x, 1, 2);
+        House.draft(x, 1, 2);
         checkBest(x, "100 is enough for 100", 2, 0);
         x.setPrices(50, 10, 6);
-        rule(x, 0, 2, 7);
+        House.rule(x, 0, 2, 7);
         checkBest(x, "a due sentence is no match", 0, 1);
         checkBest(x, "a due sentence is none for others", 3, 1);
-        rule(x, 1, 2, 7);
+        House.rule(x, 1, 2, 7);
         checkBest(x, "all are due", 0, NONE);
         x.mend(0);
         checkBest(x, "mended, it is a match again", 3, 0);
-        rule(x, 1, 2, 52);
-        draft(x, 1, 2, 3);
+        House.rule(x, 1, 2, 52);
+        House.draft(x, 1, 2, 3);
         checkBest(x, "due no more, it is a match again", 3, 1);
     }
 
@@ -250,15 +227,15 @@ public final class PromisesTest {
             Check.throwsArgument("cost(" + wrong + "), no draft", () -> x.cost(wrong, true));
         }
         Check.throwsState("cost, no draft", () -> x.cost(3, false));
-        draft(x, 1, 2, 3);
+        House.draft(x, 1, 2, 3);
         Check.same("cost", x.cost(0, false), 30);
         Check.same("cost of a rush order", x.cost(0, true), 45);
         x.setPrices(50, 5, 6);
-        draft(x, 1);
+        House.draft(x, 1);
         Check.same("cost of one word", x.cost(0, false), 5);
         Check.same("the half of 5 is rounded down", x.cost(0, true), 7);
         x.setPrices(50, 100, 6);
-        draft(x, 1, 2, 3, 4, 5, 6, 7, 8);
+        House.draft(x, 1, 2, 3, 4, 5, 6, 7, 8);
         Check.same("the dearest cost", x.cost(0, false), 800);
         Check.same("the dearest rush cost", x.cost(0, true), 1200);
         x.setPrices(50, 0, 6);
@@ -268,7 +245,7 @@ public final class PromisesTest {
 
     private static void promise7Shares() {
         TermGate x = new TermGate();
-        sell(x, 0, false, 1, 2, 3, 4, 5, 6, 7, 8);
+        House.sell(x, 0, false, 1, 2, 3, 4, 5, 6, 7, 8);
         x.setPrices(1, 100, 6);
         checkCost(x, 160, 240, 1, 2, 3, 4, 5, 6, 7, 8);
         checkCost(x, 400, 600, 1, 2, 3, 4, 5, 6, 7, 9);
@@ -277,11 +254,11 @@ public final class PromisesTest {
         checkCost(x, 720, 1080, 9, 9, 9, 9, 9, 9, 9, 8);
         checkCost(x, 800, 1200, 9, 9, 9, 9, 9, 9, 9, 9);
         TermGate seven = new TermGate();
-        sell(seven, 0, false, 1, 2, 3, 4, 5, 6, 7);
+        House.sell(seven, 0, false, 1, 2, 3, 4, 5, 6, 7);
         checkCost(seven, 35, 52, 1, 2, 3, 4, 5, 6, 9);
         checkCost(seven, 49, 73, 1, 2, 3, 4, 5, 9, 9);
         TermGate six = new TermGate();
-        sell(six, 0, false, 1, 2, 3, 4, 5, 6);
+        House.sell(six, 0, false, 1, 2, 3, 4, 5, 6);
         checkCost(six, 42, 63, 1, 2, 3, 4, 5, 9);
         checkCost(six, 54, 81, 1, 2, 3, 4, 9, 9);
         six.setPrices(50, 7, 6);
@@ -289,12 +266,12 @@ public final class PromisesTest {
         checkCost(six, 8, 12, 1, 2, 3, 4, 5, 6);
         six.setPrices(67, 7, 6);
         checkCost(six, 42, 63, 1, 2, 3, 4, 9, 9);
-        rule(six, 0, 1, 9);
+        House.rule(six, 0, 1, 9);
         checkCost(six, 42, 63, 1, 2, 3, 4, 5, 6);
     }
 
     private static void checkCost(TermGate x, int plain, int rush, int... words) {
-        draft(x, words);
+        House.draft(x, words);
         String what = " of " + java.util.Arrays.toString(words);
         Check.same("cost" + what, x.cost(1, false), plain);
         Check.same("rush cost" + what, x.cost(1, true), rush);
@@ -306,10 +283,10 @@ public final class PromisesTest {
             Check.throwsArgument("order(" + wrong + "), no draft", () -> x.order(wrong, false));
         }
         Check.throwsState("order, no draft", () -> x.order(0, false));
-        draft(x, 8, 9);
+        House.draft(x, 8, 9);
         Check.same("order 0", x.order(3, false), 0);
         Check.same("order 1 of the draft that stays", x.order(0, true), 1);
-        draft(x, 7);
+        House.draft(x, 7);
         Check.same("take", x.take(0), 1);
         Check.throwsPlace("its words stay as they were", () -> x.became(0, 2));
         Check.same("it has the words of the draft of then", x.became(0, 1), NONE);
@@ -330,7 +307,7 @@ public final class PromisesTest {
             Check.throwsArgument("take(" + wrong + ")", () -> x.take(wrong));
         }
         Check.same("nothing to take", x.take(3), NONE);
-        draft(x, 1);
+        House.draft(x, 1);
         boolean[] rushes = {false, true, false, true};
         for (boolean isRush : rushes) {
             x.order(0, isRush);
@@ -344,9 +321,9 @@ public final class PromisesTest {
         x.translate(3, 0, 5);
         x.deliver(3);
         Check.same("no more to take", x.take(3), NONE);
-        draft(x, 1);
+        House.draft(x, 1);
         x.order(0, false);
-        sell(x, 1, true, 1);
+        House.sell(x, 1, true, 1);
         Check.same("take behind a sale", x.take(3), 4);
         Check.same("its match is the best one of when it is taken", x.match(3), 0);
     }
@@ -368,14 +345,14 @@ public final class PromisesTest {
         checkLent("the row is the longer", words(6, 5), words(5, 6, 7, 6), NONE, 56, NONE, NONE);
         checkLent("no match", words(1, 2), words(3, 4), NONE, NONE);
         TermGate x = new TermGate();
-        sell(x, 0, false, 1, 2);
-        rule(x, 0, 2, 77);
+        House.sell(x, 0, false, 1, 2);
+        House.rule(x, 0, 2, 77);
         x.mend(0);
-        draft(x, 1, 2);
+        House.draft(x, 1, 2);
         x.order(3, true);
         x.take(0);
         checkBecame(x, "of a mended match", 0, 51, 77);
-        rule(x, 0, 2, 78);
+        House.rule(x, 0, 2, 78);
         x.mend(0);
         checkBecame(x, "of a match that is mended later", 0, 51, 77);
         Check.same("its match is due in between, and stays", x.match(0), 0);
@@ -384,8 +361,8 @@ public final class PromisesTest {
     private static void checkLent(String what, int[] sold, int[] row, int... want) {
         TermGate x = new TermGate();
         x.setPrices(1, 10, 6);
-        sell(x, 0, false, sold);
-        draft(x, row);
+        House.sell(x, 0, false, sold);
+        House.draft(x, row);
         x.order(1, false);
         x.take(2);
         checkBecame(x, what, 2, want);
@@ -393,7 +370,7 @@ public final class PromisesTest {
 
     private static void promise9FixesPrices() {
         TermGate x = new TermGate();
-        draft(x, 1, 2);
+        House.draft(x, 1, 2);
         x.order(0, true);
         x.setPrices(50, 20, 9);
         x.take(0);
@@ -403,20 +380,20 @@ public final class PromisesTest {
         x.deliver(0);
         Check.same("paid by the price of when it was taken", x.paid(0), 60);
         Check.same("earned by the rate of when it was taken", x.earned(0), 18);
-        draft(x, 1, 2);
+        House.draft(x, 1, 2);
         x.setPrices(50, 10, 10);
         x.order(1, false);
         x.order(2, false);
         x.take(1);
         x.take(2);
         Check.same("matched", x.match(1), 0);
-        rule(x, 0, 1, 9);
+        House.rule(x, 0, 1, 9);
         x.deliver(1);
         Check.same("paid by the share of when it was taken", x.paid(1), 4);
         Check.same("earned by the share of when it was taken", x.earned(1), 4);
         x.giveBack(2);
         x.setPrices(50, 50, 50);
-        rule(x, 1, 1, 9);
+        House.rule(x, 1, 1, 9);
         Check.same("taken again", x.take(3), 2);
         Check.same("taken again, without a match", x.match(3), NONE);
         x.translate(3, 0, 1);
@@ -433,7 +410,7 @@ public final class PromisesTest {
             Check.throwsArgument("giveBack(" + wrong + ")", () -> x.giveBack(wrong));
         }
         Check.throwsState("nothing to give back", () -> x.giveBack(0));
-        draft(x, 1, 2);
+        House.draft(x, 1, 2);
         for (int number = 0; number < 6; number++) {
             x.order(0, number >= 3);
         }
@@ -459,8 +436,8 @@ public final class PromisesTest {
 
     private static void checkGivenBackMatch() {
         TermGate x = new TermGate();
-        sell(x, 0, false, 1, 2);
-        draft(x, 1, 2);
+        House.sell(x, 0, false, 1, 2);
+        House.draft(x, 1, 2);
         x.order(0, false);
         x.take(0);
         x.translate(0, 0, 9);
@@ -469,7 +446,7 @@ public final class PromisesTest {
         Check.same("matched anew", x.match(1), 0);
         checkBecame(x, "matched anew", 1, 51, 52);
         x.giveBack(1);
-        rule(x, 0, 1, 9);
+        House.rule(x, 0, 1, 9);
         x.take(1);
         Check.same("the match is lost", x.match(1), NONE);
         checkBecame(x, "without a match", 1, NONE, NONE);
@@ -483,7 +460,7 @@ public final class PromisesTest {
         Check.throwsArgument("translate to -1, with no order", () -> x.translate(0, 0, -1));
         Check.throwsArgument("translate to 100, with no order", () -> x.translate(0, 0, 100));
         Check.throwsState("translate, with no order and no place", () -> x.translate(0, -1, 0));
-        draft(x, 1, 2, 1);
+        House.draft(x, 1, 2, 1);
         x.order(0, false);
         x.take(0);
         Check.throwsArgument("translate to -1, and no place", () -> x.translate(0, 3, -1));
@@ -509,9 +486,9 @@ public final class PromisesTest {
             Check.throwsArgument("deliver(" + wrong + ")", () -> x.deliver(wrong));
         }
         Check.throwsState("nothing to deliver", () -> x.deliver(0));
-        rule(x, 0, 2, 20);
-        rule(x, 1, 1, 10);
-        draft(x, 1, 2);
+        House.rule(x, 0, 2, 20);
+        House.rule(x, 1, 1, 10);
+        House.draft(x, 1, 2);
         x.order(0, false);
         x.order(0, true);
         x.take(0);
@@ -541,7 +518,7 @@ public final class PromisesTest {
 
     private static void promise12Limit() {
         TermGate x = new TermGate();
-        draft(x, 1);
+        House.draft(x, 1);
         for (int number = 0; number < 42; number++) {
             x.order(0, false);
         }
@@ -560,12 +537,12 @@ public final class PromisesTest {
         Check.same("the 41st is still with the translator", x.orderAt(40), 0);
         Check.throwsPlace("there is no 41st sentence", () -> x.clientOf(40));
         Check.same("paid for 40", x.paid(0), 10 + 39 * 2);
-        rule(x, 0, 1, 6);
+        House.rule(x, 0, 1, 6);
         Check.same("all 40 are due", x.due(), 40);
         Check.same("the last of 40", x.dueAt(39), 39);
         Check.same("mend the last of 40", x.mend(39), 1);
         Check.same("39 are due", x.due(), 39);
-        draft(x, 1);
+        House.draft(x, 1);
         checkBest(x, "the one that was mended", 0, 39);
     }
 
@@ -577,9 +554,9 @@ public final class PromisesTest {
         }
         Check.throwsState("why of none", () -> x.why(1));
         Check.throwsState("wherefore of none", () -> x.wherefore(1));
-        rule(x, 0, 1, 10);
-        rule(x, 0, 3, 30);
-        draft(x, 1, 2, 3);
+        House.rule(x, 0, 1, 10);
+        House.rule(x, 0, 3, 30);
+        House.draft(x, 1, 2, 3);
         x.order(0, false);
         x.order(0, true);
         x.take(0);
@@ -598,8 +575,8 @@ public final class PromisesTest {
         checkWhy(x, "ruled as it is", 1, 0, NONE);
         x.say(0, 0, 1, 9);
         checkWhy(x, "ruled no more", 1, 0, NONE);
-        rule(x, 0, 1, 10);
-        rule(x, 1, 2, 20);
+        House.rule(x, 0, 1, 10);
+        House.rule(x, 1, 2, 20);
         checkWhy(x, "ruled for another client", 1, 0, NONE);
         x.translate(0, 0, 11);
         x.translate(0, 2, 32);
@@ -627,7 +604,7 @@ public final class PromisesTest {
         }
         Check.throwsState("became of none", () -> x.became(0, 0));
         Check.throwsState("became of none, and no place", () -> x.became(0, -1));
-        draft(x, 1, 2);
+        House.draft(x, 1, 2);
         x.order(0, false);
         x.take(0);
         checkBecame(x, "nothing", 0, NONE, NONE);
@@ -645,12 +622,12 @@ public final class PromisesTest {
             Check.throwsArgument("match(" + wrong + ")", () -> x.match(wrong));
         }
         Check.throwsState("match of none", () -> x.match(0));
-        sell(x, 0, false, 1, 2);
-        sell(x, 1, false, 1, 2);
-        draft(x, 1, 2);
+        House.sell(x, 0, false, 1, 2);
+        House.sell(x, 1, false, 1, 2);
+        House.draft(x, 1, 2);
         x.order(0, false);
         x.order(2, false);
-        draft(x, 3);
+        House.draft(x, 3);
         x.order(0, false);
         x.take(0);
         x.take(1);
@@ -659,13 +636,13 @@ public final class PromisesTest {
         Check.same("match of the greatest number", x.match(1), 1);
         Check.same("no match", x.match(2), NONE);
         x.setPrices(100, 1, 1);
-        rule(x, 0, 1, 99);
+        House.rule(x, 0, 1, 99);
         Check.same("the match stays", x.match(0), 0);
     }
 
     private static void promise17Waiting() {
         TermGate x = new TermGate();
-        draft(x, 1);
+        House.draft(x, 1);
         x.order(0, true);
         Check.same("one at the rush desk", x.waiting(true), 1);
         Check.same("none at the other", x.waiting(false), 0);
@@ -685,7 +662,7 @@ public final class PromisesTest {
     private static void promise18OrderAt() {
         TermGate x = new TermGate();
         Check.throwsPlace("orderAt(0)", () -> x.orderAt(0));
-        draft(x, 1);
+        House.draft(x, 1);
         x.order(0, true);
         x.order(0, false);
         Check.same("it waits", x.orderAt(0), -1);
@@ -719,9 +696,9 @@ public final class PromisesTest {
         for (int wrong : new int[] {-2, 100, Integer.MIN_VALUE, Integer.MAX_VALUE}) {
             Check.throwsArgument("say " + wrong, () -> x.say(0, 0, 0, wrong));
         }
-        sell(x, 0, false, 0, 49);
-        sell(x, 3, false, 0, 49);
-        sell(x, 0, false, 49, 0);
+        House.sell(x, 0, false, 0, 49);
+        House.sell(x, 3, false, 0, 49);
+        House.sell(x, 0, false, 49, 0);
         Check.same("one voice is none", x.say(2, 0, 49, 0), 0);
         Check.same("the same voice twice is one", x.say(2, 0, 49, 0), 0);
         Check.same("another voice for another client", x.say(1, 3, 49, 0), 0);
@@ -781,10 +758,10 @@ public final class PromisesTest {
         Check.throwsPlace("clientOf(0)", () -> x.clientOf(0));
         Check.throwsPlace("wordOf(0, 0)", () -> x.wordOf(0, 0));
         Check.throwsPlace("becameOf(0, 0)", () -> x.becameOf(0, 0));
-        sell(x, 3, false, 0, 49);
-        sell(x, 0, true, 7);
+        House.sell(x, 3, false, 0, 49);
+        House.sell(x, 0, true, 7);
         Check.same("sold", x.sold(), 2);
-        draft(x, 1);
+        House.draft(x, 1);
         x.order(0, true);
         x.take(0);
         Check.same("sold, with an order that is not", x.sold(), 2);
@@ -810,20 +787,20 @@ public final class PromisesTest {
     private static void promise25IsDue() {
         TermGate x = new TermGate();
         Check.throwsPlace("isDue(0)", () -> x.isDue(0));
-        sell(x, 0, false, 1, 2, 3);
-        sell(x, 1, false, 1, 2, 3);
+        House.sell(x, 0, false, 1, 2, 3);
+        House.sell(x, 1, false, 1, 2, 3);
         checkIsDue(x, "unruled", false, false);
-        rule(x, 0, 3, 53);
+        House.rule(x, 0, 3, 53);
         checkIsDue(x, "ruled as it is", false, false);
-        rule(x, 0, 3, 54);
+        House.rule(x, 0, 3, 54);
         checkIsDue(x, "the last word", true, false);
-        rule(x, 1, 1, 54);
+        House.rule(x, 1, 1, 54);
         checkIsDue(x, "the first word of the other", true, true);
-        rule(x, 0, 3, 53);
+        House.rule(x, 0, 3, 53);
         checkIsDue(x, "ruled back", false, true);
         x.mend(1);
         checkIsDue(x, "mended", false, false);
-        rule(x, 0, 9, 9);
+        House.rule(x, 0, 9, 9);
         checkIsDue(x, "a word that it has not", false, false);
         for (int wrong : new int[] {-1, 2, 40, Integer.MIN_VALUE, Integer.MAX_VALUE}) {
             Check.throwsPlace("isDue(" + wrong + ")", () -> x.isDue(wrong));
@@ -838,29 +815,29 @@ public final class PromisesTest {
 
     private static void promises26And27Due() {
         TermGate x = new TermGate();
-        sell(x, 0, false, 1, 2);
-        sell(x, 0, false, 1);
-        sell(x, 0, false, 1, 2, 3);
-        sell(x, 0, false, 3);
+        House.sell(x, 0, false, 1, 2);
+        House.sell(x, 0, false, 1);
+        House.sell(x, 0, false, 1, 2, 3);
+        House.sell(x, 0, false, 3);
         for (int wrong : new int[] {-1, 0, 40, 60, Integer.MIN_VALUE, Integer.MAX_VALUE}) {
             Check.throwsPlace("dueAt(" + wrong + ")", () -> x.dueAt(wrong));
         }
-        rule(x, 0, 3, 9);
+        House.rule(x, 0, 3, 9);
         checkDue(x, "by one call, the lower first", 2, 3);
-        rule(x, 0, 1, 9);
+        House.rule(x, 0, 1, 9);
         checkDue(x, "later ones behind", 2, 3, 0, 1);
         x.say(2, 0, 1, 8);
         x.say(0, 0, 1, 8);
         checkDue(x, "ruled directly another way, they stay", 2, 3, 0, 1);
         x.say(1, 0, 3, -1);
         checkDue(x, "one leaves, one is due for another word", 2, 0, 1);
-        rule(x, 0, 3, 9);
+        House.rule(x, 0, 3, 9);
         checkDue(x, "due again, it is the last one", 2, 0, 1, 3);
         x.mend(0);
         checkDue(x, "mended, it leaves", 2, 1, 3);
-        rule(x, 0, 2, 9);
+        House.rule(x, 0, 2, 9);
         checkDue(x, "mended and due again, it is the last one", 2, 1, 3, 0);
-        sell(x, 0, true, 1);
+        House.sell(x, 0, true, 1);
         checkDue(x, "delivered as due", 2, 1, 3, 0, 4);
         x.mend(2);
         checkDue(x, "the first is mended", 1, 3, 0, 4);
@@ -872,13 +849,13 @@ public final class PromisesTest {
     private static void promise28Mend() {
         TermGate x = new TermGate();
         Check.throwsPlace("mend(0)", () -> x.mend(0));
-        sell(x, 0, false, 1, 2, 1, 3);
+        House.sell(x, 0, false, 1, 2, 1, 3);
         Check.throwsState("mend one that is not due", () -> x.mend(0));
         for (int wrong : new int[] {-1, 1, 40, Integer.MIN_VALUE, Integer.MAX_VALUE}) {
             Check.throwsPlace("mend(" + wrong + ")", () -> x.mend(wrong));
         }
-        rule(x, 0, 1, 10);
-        rule(x, 0, 2, 52);
+        House.rule(x, 0, 1, 10);
+        House.rule(x, 0, 2, 52);
         Check.same("each place of the word is mended", x.mend(0), 2);
         int[] want = {10, 52, 10, 53};
         for (int place = 0; place < want.length; place++) {
@@ -886,11 +863,11 @@ public final class PromisesTest {
         }
         Check.same("the words stay", x.wordOf(0, 0), 1);
         Check.throwsState("mended already", () -> x.mend(0));
-        rule(x, 0, 3, 30);
-        rule(x, 0, 1, 11);
+        House.rule(x, 0, 3, 30);
+        House.rule(x, 0, 1, 11);
         Check.same("mended again", x.mend(0), 3);
         Check.same("mended again at 3", x.becameOf(0, 3), 30);
-        rule(x, 1, 3, 31);
+        House.rule(x, 1, 3, 31);
         Check.throwsState("ruled for another client", () -> x.mend(0));
         Check.same("sold is as it was", x.sold(), 1);
     }
@@ -898,30 +875,30 @@ public final class PromisesTest {
     private static void promise28Prices() {
         TermGate x = new TermGate();
         x.setPrices(100, 0, 0);
-        rule(x, 0, 1, 10);
+        House.rule(x, 0, 1, 10);
         x.say(2, 0, 3, 30);
         x.say(1, 0, 3, 30);
-        sell(x, 0, true, 1, 2, 3, 1);
-        rule(x, 0, 2, 20);
+        House.sell(x, 0, true, 1, 2, 3, 1);
+        House.rule(x, 0, 2, 20);
         Check.same("three back for an old ruling, one new", x.mend(0), 4);
         Check.same("paid for that", x.paid(0), -5 - 5 - 5 + 3);
-        sell(x, 0, true, 1, 2);
+        House.sell(x, 0, true, 1, 2);
         x.say(0, 0, 1, -1);
-        rule(x, 0, 1, 10);
+        House.rule(x, 0, 1, 10);
         Check.same("one changed and changed back", x.mend(1), 2);
         Check.same("paid for that too", x.paid(0), -12 + 3 - 5);
-        sell(x, 0, true, 1, 2);
+        House.sell(x, 0, true, 1, 2);
         x.say(2, 0, 1, 10);
         x.say(0, 0, 1, -1);
         x.say(0, 0, 1, 10);
-        rule(x, 0, 2, 21);
+        House.rule(x, 0, 2, 21);
         x.say(0, 1, 1, 9);
         x.say(2, 1, 1, 9);
         Check.same("one ruled all the time by other voices", x.mend(2), 2);
         Check.same("paid for that as well", x.paid(0), -14 - 5 + 3);
         Check.same("nobody else pays", x.paid(1) + x.paid(2) + x.paid(3), 0);
         Check.same("the purse", x.purse(), -16);
-        sell(x, 0, true, 1);
+        House.sell(x, 0, true, 1);
         x.say(1, 0, 1, 11);
         x.say(0, 0, 1, 11);
         x.mend(3);
@@ -929,7 +906,7 @@ public final class PromisesTest {
         x.say(0, 0, 1, 10);
         x.mend(3);
         Check.same("the first ruling, later again", x.paid(0), -16 + 3 + 3);
-        sell(x, 1, true, 1);
+        House.sell(x, 1, true, 1);
         x.mend(4);
         Check.same("another client gets back", x.paid(1), -5);
     }
@@ -943,20 +920,20 @@ public final class PromisesTest {
             Check.throwsArgument("setPrices " + java.util.Arrays.toString(wrong),
                 () -> x.setPrices(wrong[0], wrong[1], wrong[2]));
         }
-        draft(x, 1, 2);
+        House.draft(x, 1, 2);
         Check.same("the price is 10 as before", x.cost(0, false), 20);
-        sell(x, 0, false, 1, 2);
+        House.sell(x, 0, false, 1, 2);
         Check.same("the rate is 6 as before", x.earned(3), 12);
-        draft(x, 1);
+        House.draft(x, 1);
         Check.same("the least likeness is 50 as before", x.best(0), 0);
         x.setPrices(100, 100, 100);
         Check.same("the highest of all", x.cost(0, false), 100);
-        sell(x, 0, false, 1);
+        House.sell(x, 0, false, 1);
         Check.same("the highest rate", x.earned(3), 112);
         x.setPrices(1, 0, 0);
-        draft(x, 1, 5, 5, 5, 5, 5, 5, 5);
+        House.draft(x, 1, 5, 5, 5, 5, 5, 5, 5);
         Check.same("the lowest of all", x.best(0), 1);
-        sell(x, 0, false, 9);
+        House.sell(x, 0, false, 9);
         Check.same("the lowest rate", x.earned(3), 112);
         Check.same("the lowest price", x.paid(0), 120);
     }
@@ -969,7 +946,7 @@ public final class PromisesTest {
         }
         x.setPrices(50, 9, 7);
         for (int client = 0; client < 4; client++) {
-            draft(x, client);
+            House.draft(x, client);
             x.order(client, client == 3);
         }
         int[] takers = {1, 0, 2, 3};
@@ -985,11 +962,11 @@ public final class PromisesTest {
         Check.same("paid(0)", x.paid(0), 9);
         Check.same("earned(1)", x.earned(1), 7);
         Check.same("purse", x.purse(), 13 + 27 - 28);
-        sell(x, 3, false, 3);
+        House.sell(x, 3, false, 3);
         Check.same("a share of 20 is rounded down", x.paid(3), 14);
         Check.same("a share of 20 of the rate too", x.earned(3), 8);
         Check.same("purse behind that", x.purse(), 12);
-        rule(x, 0, 0, 9);
+        House.rule(x, 0, 0, 9);
         x.mend(1);
         Check.same("purse with a mending", x.purse(), 15);
     }

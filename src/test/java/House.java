@@ -20,7 +20,7 @@ final class House {
         return x;
     }
 
-    /** A new object in which so many sentences of the word 1, become 5, were sold to client 0; the draft has that word. */
+    /** A new object that has sold client 0 so many sentences of the word 1, become 5; the draft has that word. */
     static TermGate havingSold(int count) {
         TermGate x = drafted(1);
         for (int number = 0; number < count; number++) {
@@ -63,7 +63,7 @@ final class House {
         return is ? 1 : 0;
     }
 
-    /** What a range does not allow: its neighbours, the farthest ones, and what a narrower type would take for one of it. */
+    /** What a range does not allow: its neighbours, the farthest ones, and what a narrower type would let in. */
     static int[] outside(int from, int to) {
         return new int[] {from - 1, to + 1, Integer.MIN_VALUE, Integer.MAX_VALUE,
             from - 256, from + 256, from + 65536, to - 65536};

@@ -212,7 +212,8 @@ public final class OrderBoundariesTest {
 
     private static void promise11Translate() {
         Doc.promise(11);
-        Doc.says("Lets a word of the order that a translator has become something, in place of what it may have become.");
+        Doc.says("Lets a word of the order that a translator has become something,"
+            + " in place of what it may have become.");
         TermGate x = House.holding(0, 0, false, 1, 1);
         x.translate(0, 0, 5);
         Check.same("it became something", x.became(0, 0), 5);
@@ -348,9 +349,9 @@ public final class OrderBoundariesTest {
 
     private static void promise13Why() {
         Doc.promise(13);
-        Doc.says("Returns why the order that a translator has cannot be delivered: 0 it can be (be it that 40 were sold);"
-            + " 1 a word has become nothing so far; 2 each word has become something, but a ruled one not its ruling,"
-            + " and it is no rush order.");
+        Doc.says("Returns why the order that a translator has cannot be delivered:"
+            + " 0 it can be (be it that 40 were sold); 1 a word has become nothing so far;"
+            + " 2 each word has become something, but a ruled one not its ruling, and it is no rush order.");
         TermGate x = House.holding(0, 0, false, 1, 2);
         TermGate rush = House.holding(0, 0, true, 1, 2);
         for (TermGate y : new TermGate[] {x, rush}) {

@@ -2,8 +2,8 @@ import java.util.ArrayList;
 import java.util.List;
 
 /**
- * "When a call throws, nothing has changed; of several exceptions it is the first one of the throws clause": each call
- * is refused as is due, and behind it an object answers all later calls as one does on which it was not made.
+ * "When a call throws, nothing has changed; of several exceptions it is the first one of the throws clause":
+ * each call is refused as is due, and behind it an object answers all later calls as one on which it was not made.
  */
 public final class RefusalsTest {
     private static final List<Row> ROWS = new ArrayList<>();
@@ -19,7 +19,8 @@ public final class RefusalsTest {
 
     public static void main(String[] args) {
         Doc.terms();
-        Doc.says("When a call throws, nothing has changed; of several exceptions it is the first one of the throws clause.");
+        Doc.says("When a call throws, nothing has changed;"
+            + " of several exceptions it is the first one of the throws clause.");
         draftRows();
         handRows();
         translateRows();
@@ -76,8 +77,9 @@ public final class RefusalsTest {
     }
 
     /**
-     * Three sentences, the last of them due; the orders 3 to 9, of which translator 0 has one that can be delivered, 1 one
-     * with an open word, 2 one against a ruling, 3 none; two wait at each desk; a draft of two words, and single voices.
+     * Three sentences, the last of them due; the orders 3 to 9, of which translator 0 has one that can be
+     * delivered, 1 one with an open word, 2 one against a ruling, 3 none; two wait at each desk; a draft of two
+     * words, and single voices.
      */
     private static TermGate busy() {
         TermGate x = new TermGate();
@@ -111,8 +113,8 @@ public final class RefusalsTest {
     }
 
     /**
-     * 60 orders, 40 of them sold, the last 10 rush orders, of which the translators 0 and 1 have one each that only the
-     * limit keeps from being delivered; nine sentences due, and a draft of eight words.
+     * 60 orders, 40 of them sold, the last 10 rush orders, of which the translators 0 and 1 have one each that
+     * only the limit keeps from being delivered; nine sentences due, and a draft of eight words.
      */
     private static TermGate full() {
         TermGate x = House.drafted(1);

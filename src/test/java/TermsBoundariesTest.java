@@ -75,7 +75,8 @@ public final class TermsBoundariesTest {
 
     private static void words() {
         Doc.says("Words that are translated are 0 to 49, words that they become 0 to 99.");
-        checkRange(0, 49, (x, word) -> x.word(word), (x, word) -> x.say(0, 0, word, 0), (x, word) -> x.ruling(0, word));
+        checkRange(0, 49, (x, word) -> x.word(word), (x, word) -> x.say(0, 0, word, 0),
+            (x, word) -> x.ruling(0, word));
         checkRange(0, 99, (x, becomes) -> x.translate(0, 0, becomes));
         checkRange(-1, 99, (x, becomes) -> x.say(0, 0, 0, becomes));
     }
@@ -343,16 +344,19 @@ public final class TermsBoundariesTest {
         checkBest("of two others the greatest number", x, 1, 3);
     }
 
-    /** What the words of an order have become as it is taken, when the memory has one sentence of words that became 50 and on. */
+    /** Checks with which places of the only sentence, each become another thing, the words of a row are paired. */
     private static void checkPaired(String what, int[] sold, int[] row, int... want) {
-        TermGate x = new TermGate();
+        TermGate x = House.holding(3, 0, false, sold);
+        for (int place = 0; place < sold.length; place++) {
+            x.translate(3, place, 10 + place);
+        }
+        x.deliver(3);
         x.setPrices(1, 10, 6);
-        House.sell(x, 0, false, sold);
         House.draft(x, row);
         x.order(1, false);
         x.take(2);
         for (int place = 0; place < want.length; place++) {
-            Check.same(what + ", at " + place, x.became(2, place), want[place]);
+            Check.same(what + ", at " + place, x.became(2, place), want[place] == NONE ? NONE : 10 + want[place]);
         }
         Check.throwsPlace(what + ", behind the last", () -> x.became(2, want.length));
     }
@@ -362,29 +366,32 @@ public final class TermsBoundariesTest {
             + " are the same, these are paired, and both are taken away; otherwise the last word of the row is taken"
             + " away, or that of the match, or both: the first of these three behind which the edits between what is"
             + " left of both are least.");
-        checkPaired("one word each", row(0), row(0), 50);
+        checkPaired("one word each", row(0), row(0), 0);
         checkPaired("eight words each", row(0, 1, 2, 3, 4, 5, 6, 49), row(0, 1, 2, 3, 4, 5, 6, 49),
-            50, 51, 52, 53, 54, 55, 56, 99);
-        checkPaired("the row's last goes", row(1, 2), row(1, 2, 3), 51, 52, NONE);
-        checkPaired("the match's last goes", row(1, 2, 3), row(1, 2), 51, 52);
-        checkPaired("both last ones go", row(1, 2), row(1, 3), 51, NONE);
-        checkPaired("the row's and the match's are as good", row(9, 1, 2), row(9, 2, 1), 59, 52, NONE);
-        checkPaired("the row's and both are as good", row(9, 2, 3), row(9, 1, 2), 59, NONE, 52);
-        checkPaired("the row's is as good as both", row(7, 7), row(7, 8), 57, NONE);
-        checkPaired("the match's and both are as good", row(7, 7), row(5, 7, 8), NONE, 57, NONE);
-        checkPaired("of equal words the last ones", row(7), row(7, 7, 7), NONE, NONE, 57);
-        checkPaired("of equal words all that the match has", row(7, 7, 7), row(7), 57);
+            0, 1, 2, 3, 4, 5, 6, 7);
+        checkPaired("the row's alone is least", row(1), row(1, 2), 0, NONE);
+        checkPaired("the match's alone is least", row(1, 2), row(1), 0);
+        checkPaired("both alone is least", row(7, 7), row(7, 8), 0, NONE);
+        checkPaired("the row's goes ahead of the match's", row(1, 2, 1), row(1, 1, 2), 0, 2, NONE);
+        checkPaired("the row's goes ahead of both", row(1, 2), row(1, 1, 1), 0, NONE, NONE);
+        checkPaired("the match's goes ahead of both", row(2, 1, 2), row(1, 1), NONE, 1);
+        checkPaired("of equal words the match's last one", row(7, 7, 7), row(7), 2);
+        checkPaired("of equal words the row's last one", row(7), row(7, 7, 7), NONE, NONE, 0);
+        checkPaired("no match", row(1, 2), row(3, 4), NONE, NONE);
     }
 
     private static void pairsEnd() {
         Doc.says("That ends when one has nothing left.");
-        checkPaired("the match first", row(8), row(1, 2, 3, 4, 5, 6, 7, 8), NONE, NONE, NONE, NONE, NONE, NONE, NONE, 58);
-        checkPaired("the match first, by its first word", row(1), row(1, 2, 3, 4, 5, 6, 7, 8),
-            51, NONE, NONE, NONE, NONE, NONE, NONE, NONE);
-        checkPaired("the row first", row(1, 2, 3, 4, 5, 6, 7, 8), row(8), 58);
-        checkPaired("the row first, by the match's first word", row(1, 2, 3, 4, 5, 6, 7, 8), row(1), 51);
-        checkPaired("both at once", row(1, 2), row(1, 2), 51, 52);
-        checkPaired("both at once, by two words that differ", row(1, 2), row(3, 2), NONE, 52);
+        checkPaired("the match first", row(8), row(1, 2, 3, 4, 5, 6, 7, 8),
+            NONE, NONE, NONE, NONE, NONE, NONE, NONE, 0);
+        checkPaired("the match, by its first word", row(1), row(1, 2, 3, 4, 5, 6, 7, 8),
+            0, NONE, NONE, NONE, NONE, NONE, NONE, NONE);
+        checkPaired("the row first", row(1, 2, 3, 4, 5, 6, 7, 8), row(8), 7);
+        checkPaired("the row, by the match's first word", row(1, 2, 3, 4, 5, 6, 7, 8), row(1), 0);
+        checkPaired("both at once", row(1, 2), row(1, 2), 0, 1);
+        checkPaired("both at once, by two words that differ", row(1, 2), row(3, 2), NONE, 1);
+        checkPaired("far more steps than words", row(1, 4, 4, 0, 2, 3, 1, 4), row(1, 4, 2, 1, 4, 1, 3, 2),
+            0, 2, 4, 6, 7, NONE, NONE, NONE);
     }
 
     private static void ordersAndStates() {
@@ -457,7 +464,7 @@ public final class TermsBoundariesTest {
         x.take(2);
         Check.same("the only one is due as it is taken", x.match(2), NONE);
         Check.same("nothing so far", x.became(2, 2), NONE);
-        checkPaired("one that has a word more", row(1, 2), row(1, 4, 2), 51, NONE, 52);
+        checkPaired("a word that is not paired", row(1, 2), row(1, 4, 2), 0, NONE, 1);
     }
 
     private static void givingBack() {
@@ -642,8 +649,8 @@ public final class TermsBoundariesTest {
     }
 
     private static void mendingPrices() {
-        Doc.says("For each of these the client gets 5 back, if the ruling was the same ever since the sentence was sold,"
-            + " or longer; otherwise the client pays 3.");
+        Doc.says("For each of these the client gets 5 back, if the ruling was the same ever since the sentence"
+            + " was sold, or longer; otherwise the client pays 3.");
         TermGate x = House.drafted(1);
         x.setPrices(100, 0, 0);
         x.order(0, true);

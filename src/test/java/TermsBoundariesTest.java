@@ -719,7 +719,7 @@ public final class TermsBoundariesTest {
             Check.same("clear, call no. " + (2 * pair + 2), x.clear(), 1);
         }
         TermGate full = House.drafted(0, 1, 2, 3, 4, 5, 6, 7);
-        int made = 8;
+        int made = 9;
         for (int number = 0; number < 60; number++) {
             full.order(0, true);
             made++;

@@ -6,6 +6,7 @@ import java.util.List;
  * each call is refused as is due, and behind it an object answers all later calls as one on which it was not made.
  */
 public final class RefusalsTest {
+    private static final String[] STATES = {"a new", "a busy", "a full", "an emptied"};
     private static final List<Row> ROWS = new ArrayList<>();
 
     /** A call. */
@@ -13,7 +14,10 @@ public final class RefusalsTest {
         int on(TermGate x);
     }
 
-    /** A call, and what it throws on a new object, on a busy one, and on a full one: A, S, P, or - for nothing. */
+    /**
+     * A call, and what it throws on a new object, on a busy one, on a full one, and, where that is told, on a busy one
+     * with an empty draft: A, S, P, or - for nothing.
+     */
     private record Row(String name, Call call, String thrown) {
     }
 
@@ -28,7 +32,7 @@ public final class RefusalsTest {
         soldRows();
         priceRows();
         for (Row row : ROWS) {
-            for (int state = 0; state < 3; state++) {
+            for (int state = 0; state < row.thrown.length(); state++) {
                 checkRow(row, state);
             }
         }
@@ -41,7 +45,7 @@ public final class RefusalsTest {
 
     private static void checkRow(Row row, int state) {
         TermGate x = stateOf(state);
-        String what = row.name + " on " + new String[] {"a new", "a busy", "a full"}[state] + " object";
+        String what = row.name + " on " + STATES[state] + " object";
         char due = row.thrown.charAt(state);
         Check.same(what, thrownBy(row.call, x), String.valueOf(due));
         if (due == '-') {
@@ -70,10 +74,21 @@ public final class RefusalsTest {
         }
     }
 
-    // ---- the three objects
+    // ---- the objects
 
     private static TermGate stateOf(int state) {
-        return state == 0 ? new TermGate() : state == 1 ? busy() : full();
+        switch (state) {
+            case 0:
+                return new TermGate();
+            case 2:
+                return full();
+            default:
+                TermGate x = busy();
+                if (state == 3) {
+                    x.clear();
+                }
+                return x;
+        }
     }
 
     /**
@@ -216,9 +231,9 @@ public final class RefusalsTest {
         }
         row("word(0)", "--S", x -> x.word(0));
         row("word(49)", "--S", x -> x.word(49));
-        row("likeness(0)", "P--", x -> x.likeness(0));
+        row("likeness(0)", "P--S", x -> x.likeness(0));
         row("likeness(-1)", "PPP", x -> x.likeness(-1));
-        row("likeness(3)", "PP-", x -> x.likeness(3));
+        row("likeness(3)", "PP-P", x -> x.likeness(3));
         row("likeness(40)", "PPP", x -> x.likeness(40));
         for (int wrong : House.outside(0, 3)) {
             row("best(" + wrong + ")", "AAA", x -> x.best(wrong));
@@ -229,11 +244,11 @@ public final class RefusalsTest {
         }
         for (int client = 0; client < 4; client++) {
             int who = client;
-            row("best(" + who + ")", "S--", x -> x.best(who));
-            row("bestByAll(" + who + ")", "S--", x -> x.bestByAll(who));
-            row("cost(" + who + ", false)", "S--", x -> x.cost(who, false));
-            row("order(" + who + ", true)", "S-S", x -> x.order(who, true));
-            row("order(" + who + ", false)", "S-S", x -> x.order(who, false));
+            row("best(" + who + ")", "S--S", x -> x.best(who));
+            row("bestByAll(" + who + ")", "S--S", x -> x.bestByAll(who));
+            row("cost(" + who + ", false)", "S--S", x -> x.cost(who, false));
+            row("order(" + who + ", true)", "S-SS", x -> x.order(who, true));
+            row("order(" + who + ", false)", "S-SS", x -> x.order(who, false));
         }
     }
 
